@@ -54,10 +54,7 @@ public final class SumsToOne {
     private int leftLast;
 
     public SumsToOne() {
-        hasImage = false;
-        answersKnown = false;
-        leftKnown = false;
-        leftLast = 0;
+        // The fields begin as the document wants it: no PRIMES, 1 in all SHELVES, no IMAGE.
     }
 
     // ---- primes, boxes

@@ -128,6 +128,7 @@ public final class PromisesTest {
         C.due("2 rising 2", x.primeOf(2), 7);
         C.due("2 rising 3", x.primeOf(3), 13);
         C.due("2 966", Checks.of(2, 3, 7).prime(23), 4);
+        C.due("2 1001", Checks.of(7, 11).prime(13), FULL);
         C.due("2 29 31", Checks.of(29).prime(31), 2);
         C.due("2 899 times 2", Checks.of(29, 31).prime(2), FULL);
         SumsToOne four = Checks.of(2, 3, 5, 7);
@@ -149,6 +150,17 @@ public final class PromisesTest {
         C.due("2 box of 3", x.boxOf(0), 1);
         C.due("2 box of the new one", x.boxOf(1), 2);
         C.due("2 box of 7", x.boxOf(2), 4);
+        x.put(3, 2, 6);
+        x.prime(2);
+        C.due("2 a new first one", x.powerOf(0, 0), 10);
+        C.due("2 the first goes on", x.powerOf(0, 1), 12);
+        C.due("2 the last goes on", x.powerOf(0, 3), 7);
+        C.due("2 the last goes on", x.powerOf(3, 3), 16);
+        x.put(0, 0, 1);
+        x.drop(0);
+        C.due("3 the first goes", x.value(0, 0), 9);
+        C.due("3 the last comes nearer", x.powerOf(3, 2), 16);
+        C.due("3 the last comes nearer", x.value(0, 1), 343);
         x.sieve(11);
         x.sieve(2);
         C.due("2 a sieve", x.count(1), 1);
@@ -403,6 +415,19 @@ public final class PromisesTest {
         SumsToOne y = Checks.of(2, 3, 5, 17);
         Checks.read(y, 0, "-3*5*17");
         C.due("15 256 has power 8", y.partner(0, 1), NOT);
+        Checks.read(y, 0, "-3*5^-3");
+        C.due("15 128 by 125 has power 7", y.partner(0, 1), NOT);
+        C.due("15 so it is no pair", y.forms(0), NOT);
+        C.due("15 so it has no forms", y.form(0, 2, 1), NOT);
+        Checks.read(y, 0, "2^6*3^-4");
+        C.due("15 17 by 81", y.partner(0, 1), 1);
+        C.due("15 above", y.value(1, 0), 17);
+        Checks.read(y, 0, "-17*3^-4*2^-6");
+        C.due("15 17 and 5184", y.partner(0, 1), NOT);
+        Checks.read(y, 0, "-17*3^-1*5^-1");
+        C.due("15 32 by 15", y.partner(0, 1), 1);
+        C.due("15 above", y.value(1, 0), 32);
+        C.due("15 below", y.value(1, 1), 15);
         Checks.read(y, 0, "-2^4*3*5");
         C.due("15 241", y.partner(0, 1), NOT);
         SumsToOne z = Checks.of(3, 5, 7);
@@ -1042,6 +1067,11 @@ public final class PromisesTest {
         C.due("44 pairs", x.count(4), 2);
         x.box(0, 0);
         C.due("44 pairs need no box", x.count(4), 2);
+        x.put(0, 1, -1);
+        x.put(1, 2, 1);
+        C.due("44 all four", x.count(4), 4);
+        x.put(0, 1, 0);
+        x.put(1, 2, 0);
         x.drop(0);
         C.due("44 -1 is no pair without 2", x.count(4), 0);
         for (int what : new int[] {-1, 5, MIN, MAX}) {
