@@ -513,14 +513,18 @@ public final class SumsToOne {
     }
 
     private static int orderModulo(int p, int q) {
-        int residue = p % q;
+        int residue = 1;
         for (int k = 1; k < q; k++) {
+            residue = residue * p % q;
             if (residue == 1) {
                 return k;
             }
-            residue = residue * p % q;
         }
         return NONE;
+    }
+
+    private static boolean divides(int p, long v) {
+        return p > 1 && v % p == 0;
     }
 
     private void primesChanged() {
@@ -641,7 +645,7 @@ public final class SumsToOne {
         boolean boxesHold(long v) {
             long rest = v;
             for (int i = 0; i < size; i++) {
-                for (int n = 0; n < boxes[i] && rest % primes[i] == 0; n++) {
+                for (int n = 0; n < boxes[i] && divides(primes[i], rest); n++) {
                     rest /= primes[i];
                 }
             }
@@ -746,11 +750,11 @@ public final class SumsToOne {
             long down = below;
             for (int i = 0; i < base.size; i++) {
                 int p = base.primes[i];
-                for (int n = 0; n < GREATEST_POWER && up % p == 0; n++) {
+                for (int n = 0; n < GREATEST_POWER && divides(p, up); n++) {
                     up /= p;
                     powers[i]++;
                 }
-                for (int n = 0; n < GREATEST_POWER && down % p == 0; n++) {
+                for (int n = 0; n < GREATEST_POWER && divides(p, down); n++) {
                     down /= p;
                     powers[i]--;
                 }
