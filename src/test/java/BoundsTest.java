@@ -26,6 +26,7 @@ public final class BoundsTest {
         theGreatestFractions();
         inTheBox();
         heights();
+        allFourPlacesCount();
         productsAtTheRange();
         partners();
         formsAtTheRange();
@@ -34,6 +35,7 @@ public final class BoundsTest {
         answersByWhatIsBelowThenAbove();
         answersNeedBothInTheBox();
         groupsByTheirFirstAnswers();
+        answersOfBoxesThatGrewAndShrank();
         shelves();
         aPrimeThatComesAndGoes();
         sieveNumbers();
@@ -291,6 +293,29 @@ public final class BoundsTest {
         }
     }
 
+    /** With four PRIMES, as many as there may be: each place counts, and one that goes leaves nothing behind. */
+    private static void allFourPlacesCount() {
+        for (int i = 0; i < 4; i++) {
+            SumsToOne x = Checks.of(2, 3, 5, 7);
+            C.due("in the box", x.isIn(0), 1);
+            C.due("1 does not pass", x.passes(0, 11), 0);
+            x.put(0, i, 2);
+            C.due("in the box", x.isIn(0), 1);
+            x.put(0, i, 3);
+            C.due("not in the box", x.isIn(0), 0);
+            C.due("height", x.height(0), 3);
+            int[] residues = {8, 27 % 11, 125 % 11, 343 % 11};
+            C.due("passes, as all but 0 are reached", x.passes(0, 11), residues[i] == 1 ? 0 : 1);
+            x.put(0, 3, -6);
+            C.due("height", x.height(0), 6);
+            for (int n = 3; n >= 0; n--) {
+                x.drop(n);
+                C.due("no height is left behind", x.height(0), i < n ? 3 : 0);
+                C.due("nor anything that is over", x.times(0, 0, 1), 1);
+            }
+        }
+    }
+
     /** OVER: a POWER would be beyond -6 .. 6. */
     private static void productsAtTheRange() {
         for (int e = -6; e <= 6; e++) {
@@ -497,6 +522,33 @@ public final class BoundsTest {
             for (int k = 0; k < 6; k++) {
                 x.form(0, k, 1);
                 C.due("a form is in the same group", x.groupOf(x.which(1)), x.groupOf(i));
+            }
+        }
+    }
+
+    /** BOXES that were greater and PRIMES that were more leave nothing behind: all is as in a new object. */
+    private static void answersOfBoxesThatGrewAndShrank() {
+        for (int boxes = 0; boxes < 125; boxes++) {
+            SumsToOne x = Checks.of(2, 3, 5, 7);
+            for (int i = 0; i < 4; i++) {
+                x.box(i, 4);
+            }
+            C.due("most", x.answers(), 261);
+            x.drop(3);
+            SumsToOne fresh = Checks.of(2, 3, 5);
+            for (SumsToOne each : new SumsToOne[] {x, fresh}) {
+                each.box(0, boxes % 5);
+                each.box(1, boxes / 5 % 5);
+                each.box(2, boxes / 25);
+            }
+            C.due("answers", x.answers(), fresh.answers());
+            C.due("groups", x.groups(), fresh.groups());
+            C.due("behind the last answer", x.answer(fresh.answers(), 0), VOID);
+            C.due("behind the last group", x.group(fresh.groups(), 0), NONE);
+            for (int g = 0; g < fresh.groups(); g++) {
+                for (int what = 0; what < 3; what++) {
+                    C.due("group " + g + ", " + what, x.group(g, what), fresh.group(g, what));
+                }
             }
         }
     }
