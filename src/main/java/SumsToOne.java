@@ -26,6 +26,7 @@ public final class SumsToOne {
     private static final int LEAST_SIEVE = 3;
     private static final int GREATEST_SIEVE = 97;
     private static final int MOST_LOTS = 50;
+    private static final int ALL_BUT_THE_SIGN_BIT = 0x7fffffff;
     private static final int MOST_BYTES = 60;
     private static final int LEAST_BYTE = 32;
     private static final int GREATEST_BYTE = 126;
@@ -509,7 +510,7 @@ public final class SumsToOne {
     }
 
     private static int draw(int seed, int m) {
-        return m < 1 ? 0 : (seed & Integer.MAX_VALUE) / 65536 % m;
+        return m < 1 ? 0 : (seed & ALL_BUT_THE_SIGN_BIT) / 65536 % m;
     }
 
     private static int orderModulo(int p, int q) {

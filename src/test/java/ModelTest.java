@@ -5,6 +5,7 @@ import java.util.Random;
 /** Random runs of all calls on an object and on SlowModel, which must answer alike. */
 public final class ModelTest {
     private static final int RUNS = 300;
+    // What later calls answer is free, so none is made.
     private static final int CALLS = 512;
     private static final int[] WILD = {Integer.MIN_VALUE, Integer.MAX_VALUE, -100, -7, -3, -2, -1, 5, 6, 7, 20, 21, 50, 51, 100, 1000};
     private static final int[] FRIENDS = {2, 3, 5, 7, 2, 3, 5, 11, 13, 17, 19, 23, 29, 31};
@@ -38,9 +39,14 @@ public final class ModelTest {
         for (int i = 0; i < calm; i++) {
             primeCall(FRIENDS[random.nextInt(7)]);
         }
-        while (calls < CALLS && !isWrong) {
+        while (hasRoomFor(1) && !isWrong) {
             call();
         }
+        checks.holds("at most " + CALLS + " calls, not " + calls, calls <= CALLS);
+    }
+
+    private boolean hasRoomFor(int more) {
+        return calls + more <= CALLS;
     }
 
     private void same(String call, long got, long want) {
@@ -227,6 +233,9 @@ public final class ModelTest {
             case 0:
             case 1:
                 String text = text();
+                if (!hasRoomFor(text.length() + 1)) {
+                    return;
+                }
                 for (int i = 0; i < text.length(); i++) {
                     same("feed(" + text.charAt(i) + ")", x.feed(text.charAt(i)), m.feed(text.charAt(i)));
                 }
@@ -240,7 +249,7 @@ public final class ModelTest {
                 same("wipe()", x.wipe(), m.wipe());
                 break;
             default:
-                for (int i = -2; i <= m.spelled(s, -1); i++) {
+                for (int i = -2; i <= m.spelled(s, -1) && hasRoomFor(1); i++) {
                     same("spelled(" + s + ", " + i + ")", x.spelled(s, i), m.spelled(s, i));
                 }
         }
@@ -263,6 +272,9 @@ public final class ModelTest {
     }
 
     private void filmAndJudge(int l, int at, int i) {
+        if (!hasRoomFor(3)) {
+            return;
+        }
         same("film(" + l + ", " + at + ")", x.film(l, at), m.film(l, at));
         if (random.nextBoolean()) {
             long v = m.get(l, i) + random.nextInt(2);
